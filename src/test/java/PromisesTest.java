@@ -33,6 +33,7 @@ public final class PromisesTest {
         of();
         work();
         causes();
+        fullHall();
         now();
         placing();
         without();
@@ -165,6 +166,7 @@ public final class PromisesTest {
         x.heat(4, 100000);
         is("cooler", x.cooler(2, 30, 240), 1);
         is("cooler", x.cooler(3, 30, 200), 1);
+        is("least", x.cooler(4, 0, 0), 1);
         is("most", x.cooler(4, 10000, 5000), 1);
         int[][] wrong = {{12, 0, 0}, {-1, 0, 0}, {2, -1, 0}, {2, 10001, 0}, {2, 0, -1}, {2, 0, 5001}};
         for (int[] w : wrong) {
@@ -245,6 +247,12 @@ public final class PromisesTest {
         x.feed(0, 29);
         x.minutes(1);
         is("the last one trips too", x.of(0, 2), 2);
+        x = still();
+        x.machine(0, 0, 1, 5000, 0);
+        x.steady(0, 0, 9, 1, 0);
+        x.feed(0, 0);
+        x.minutes(1);
+        is("1 is more than 0", x.of(0, 2), 2);
     }
 
     /** Machines of power 10 in cells 0, 1, 2, a batch pinned to each; works by the order 2, 0, 1. */
@@ -315,6 +323,8 @@ public final class PromisesTest {
     private static void store() {
         DUE.part("9 store");
         HotHall x = three();
+        is("least", x.store(0, 0, 0), 1);
+        is("most", x.store(100000, 10000, 1000), 1);
         is("store", x.store(100, 40, 50), 1);
         int[][] wrong = {{-1, 0, 0}, {100001, 0, 0}, {0, -1, 0}, {0, 10001, 0}, {0, 0, -1}, {0, 0, 1001}};
         for (int[] w : wrong) {
@@ -428,6 +438,13 @@ public final class PromisesTest {
             is("for good", x.work(0, 1), row[3] == 1 ? 0 : 6);
             is("cause", x.work(0, 2), row[3] == 1 ? 1 : 0);
         }
+        x = still();
+        x.machine(0, 0, 0, 5000, 0);
+        x.heat(0, 90000);
+        x.odds(100, 100, 7);
+        x.steady(0, 0, 5, 1, -1);
+        x.minutes(1);
+        is("fails at speed 1", x.of(0, 3), 1);
         x = still();
         x.machine(0, 0, 0, 5000, 0);
         x.odds(0, 0, 7);
@@ -605,12 +622,12 @@ public final class PromisesTest {
             "2*1-0", "1+1*2", "(1+1)*1", "7/3", "-7/3+4", "7/0", "7/0+2", "1<2", "2<1", "1>2", "2>1", "2=2", "2=1",
             "2&2", "2&0", "0|0", "0|5", "1|0&0", "(1|0)&0", "2|2+1", "1<2+1", "1+1<2", "2=1+1", "!1+2", "!(1+2)+2",
             "-2*-1", "2-1=1", "3&2=2", "12/2/3", "12/(4/2)/3", "8-2*3", "1 +  1", " ( 2 ) ",
-            "999999*999999*999999*999999>0", "!w+!s+!m", "3-f-f", "p/5", "p=10", "1&1&1&0|2", "-3+5"};
+            "999999*999999*999999*999999>0", "!w+!s+!m", "3-f-f", "p/5", "p=10", "1&1&1&0|2", "-3+5", "1&1", "2>2", "2<2"};
         int[] due = {0, 1, 2, 3, 3, 3, 0, 2, 1, 0, 0, 1, 2, 1,
             2, 3, 2, 2, 2, 0, 2, 1, 0, 0, 1, 1, 0,
             1, 0, 0, 1, 1, 0, 1, 1, 0, 1, 2, 2,
             2, 1, 1, 2, 2, 2, 2, 2,
-            999999L * 999999L * 999999L * 999999L > 0 ? 1 : 0, 3, 3, 2, 1, 1, 2};
+            999999L * 999999L * 999999L * 999999L > 0 ? 1 : 0, 3, 3, 2, 1, 1, 2, 1, 0, 0};
         for (int i = 0; i < texts.length; i++) {
             HotHall x = new HotHall();
             put(x, texts[i]);
@@ -642,6 +659,36 @@ public final class PromisesTest {
         is("one is open", x.now(1), 1);
         x.minutes(1);
         is("two are open", x.now(1), 2);
+        for (int i = 0; i < 12; i++) {
+            x = still();
+            x.late(0);
+            x.heat(i, 9);
+            put(x, "(g=9)*2");
+            x.minutes(1);
+            is("gauge of cell " + i, x.now(1), 2);
+        }
+        x = still();
+        x.machine(0, 0, 0, 5000, 0);
+        x.heat(0, 90000);
+        x.odds(100, 100, 7);
+        x.batch(0, 9, 99, -1);
+        put(x, "1+2*f");
+        x.minutes(1);
+        is("none failed", x.now(1), 1);
+        x.minutes(1);
+        is("one failed", x.now(1), 3);
+        put(x, "-1+1*1+1*1+1*1+1*1+1*1+1*1+1*1+1*1+1*1+1*1+1*1+1*1+1*1+1*1-11");
+        is("60 characters at most", x.count(4), 60);
+        is("the last that is taken is a 1", x.fault(), -1);
+        put(x, "0+(0+(0+(0+(0+(0+(0+(0+(1+1*1))))))))+0");
+        x.minutes(1);
+        is("eight deep", x.now(1), 2);
+        put(x, "------------------------------------------------------------");
+        is("a unit is lacking", x.fault(), 601);
+        put(x, "-----------------------------------------------------------1");
+        is("59 minuses", x.fault(), -1);
+        x.minutes(1);
+        is("below 0", x.now(1), 0);
     }
 
     private static void minutes() {
@@ -792,6 +839,30 @@ public final class PromisesTest {
         x.minutes(2);
         is("kept", x.work(0, 0), 2);
         is("no cause", x.work(0, 2), 0);
+    }
+
+    /** Ten machines and 16 works: all rows are full. */
+    private static void fullHall() {
+        DUE.part("a full hall");
+        HotHall x = still();
+        for (int i = 0; i < 10; i++) {
+            x.machine(i, 1, 1, 5000, i % 4);
+        }
+        for (int i = 0; i < 8; i++) {
+            x.batch(i, 3, 0, -1);
+            x.steady(i, 0, 0, 3, i);
+        }
+        is("open", x.now(4), 16);
+        x.feed(3, 3);
+        is("batch i is at machine i; 7 trips with 3 on feed 3; steady ones find theirs taken", x.minutes(1), 9);
+        is("drawn", x.now(3), 21);
+        is("7 tripped", x.of(7, 2), 2);
+        is("kept", x.count(2), 7);
+        is("none is open", x.now(4), 0);
+        is("nothing is foretold", x.without(30) + x.other(0, 5, 30, 0) + x.other(1, -5, 30, 1), 0);
+        x.drill(0, 500, 0, 30);
+        is("nothing can break", x.worst(1), 0);
+        is("sum of heat", x.now(6), 21);
     }
 
     private static void now() {
@@ -955,6 +1026,7 @@ public final class PromisesTest {
         is("no less than 0", x.other(4, -100000, 5, 1), -250);
         is("nothing is changed", x.now(0), 0);
         for (int i = 1; i < 10; i++) {
+            is("nine are there", x.other(5, 0, 1, 0), 0);
             x.machine(1, 0, 0, 5000, 1);
         }
         is("ten are there", x.other(5, 0, 1, 0), NO_LONG);
@@ -984,6 +1056,42 @@ public final class PromisesTest {
         is("each AIM 100 less: the work is kept", x.other(3, -100, 5, 0), -1);
         is("99 less is not enough", x.other(3, -99, 5, 0), 0);
         is("no less than 0", x.other(3, -100000, 5, 0), -1);
+        otherMachine();
+        for (int i = 0; i < 12; i++) {
+            x = still();
+            x.late(0);
+            x.machine(i, 0, 0, 100, 0);
+            x.heat(i, 300);
+            x.cooler(i, 10000, 200);
+            x.steady(0, 1, 4, 3, 0);
+            is("AIM of cell " + i, x.other(3, -100, 5, 0), -1);
+        }
+    }
+
+    /** Machine 1 differs from machine 0 in all, and the work is too much for one: only one like 0 helps. */
+    private static void otherMachine() {
+        HotHall x = still();
+        x.late(0);
+        x.machine(0, 40, 10, 100, 2);
+        x.machine(1, 500, 500, 1, 1);
+        x.feed(1, 0);
+        x.feed(2, 60);
+        x.steady(0, 0, 2, 3, -1);
+        x.steady(0, 0, 2, 3, -1);
+        // as it is: 30, then too hot: 10, 10. With the new one: 30 (1 trips), 30 and 10, 10 and 10
+        is("all are slow at last", x.other(5, 5, 3, 0), 0);
+        is("40 more at 10", x.other(5, 5, 3, 1), 400);
+        x.heat(0, 200);
+        is("the first is slow, the new one is cooler", x.other(5, 6, 1, 1), 200);
+        x = still();
+        x.machine(0, 0, 10, 5000, 0);
+        x.odds(100, 100, 7);
+        x.heat(0, 90000);
+        x.batch(0, 6, 3, -1);
+        x.minutes(1);
+        is("0 failed", x.of(0, 3), 1);
+        x.odds(0, 0, 7);
+        is("the new one has not", x.other(5, 5, 4, 0), -1);
     }
 
     private static void fitted() {
@@ -1038,6 +1146,30 @@ public final class PromisesTest {
         x.odds(0, 100, 7);
         x.minutes(1);
         is("more than 900 is as 900: A + 9 B", x.fitted(), 2009);
+        fittedAt(799, 7);
+        fittedAt(800, 8);
+        fittedAt(899, 8);
+        fittedAt(900, 9);
+        fittedAt(100000, 9);
+    }
+
+    /** 19 stood and one failed at k: the first A and B with A + k B nearest to 50 is told. */
+    private static void fittedAt(int heat, int k) {
+        HotHall x = still();
+        x.machine(0, 0, 0, 5000, 0);
+        x.batch(0, 900, 999, 0);
+        x.heat(0, heat);
+        x.minutes(19);
+        x.odds(100, 100, 7);
+        x.minutes(1);
+        x.odds(0, 0, 0);
+        is("failed", x.of(0, 3), 1);
+        int due = 0;
+        for (int v = 20 * 10 + 9; v >= 10; v--) {
+            int odds = v / 10 + v % 10 * k;
+            due = odds == 50 ? v / 10 * 100 + v % 10 : due;
+        }
+        is("one of 20 failed at " + heat, x.fitted(), due);
     }
 
     /** A lot whose next is below 100 left over by 1000, or not. */
@@ -1125,6 +1257,8 @@ public final class PromisesTest {
         is("7 for 3", x.bill(2), 7);
         is("0 broke, 1 is kept", x.bill(1), 70);
         is("another has none", x.bill(0), 0);
+        x.house(0, 0, 5, 5);
+        is("another has none", x.bill(0), 0);
         x.house(1, 1, 10, 1);
         is("by what is told now", x.bill(1), 9);
         x.minutes(9);
@@ -1167,6 +1301,8 @@ public final class PromisesTest {
         is("no such one", x.forge(0, 1), HotHall.BAD);
         x.begin();
         x.minutes(2);
+        is("forged", x.forge(0, 44), 1);
+        is("forged", x.record(0), 44);
         is("forged", x.forge(1, Long.MIN_VALUE), 1);
         is("forged", x.record(1), Long.MIN_VALUE);
         is("no such one", x.forge(2, 1), HotHall.BAD);
