@@ -156,6 +156,15 @@ public final class PromisesTest {
         is("too hot", x.heat(11, 100001), BAD_HEAT);
         is("too cold", x.heat(11, -1), BAD_HEAT);
         is("as it was", x.cell(11, 0), 7);
+        x = still();
+        for (int i = 0; i < 10; i++) {
+            x.machine(i, 500, 0, 5000, 0);
+            x.steady(0, 0, 9999, 3, i);
+        }
+        for (int i = 0; i < 120; i++) {
+            x.minutes(60);
+        }
+        is("one machine a cell, slow above the limit", x.cell(9, 0), 500 * 7200 + 1000 * 5);
     }
 
     private static void cooler() {
