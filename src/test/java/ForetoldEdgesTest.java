@@ -6,6 +6,7 @@ public final class ForetoldEdgesTest {
         withinMinutes();
         foretoldBeyond9999();
         asIfTheyWentOn();
+        asItGoes();
         placingOfNone();
         placingEightAtMost();
         placingAsManyAsCanBe();
@@ -107,6 +108,40 @@ public final class ForetoldEdgesTest {
             is("broke", x.minutes(1), twin.minutes(1));
             is("digest", x.digest(), twin.digest());
         }
+    }
+
+    /** What is foretold of a hall is what then comes, whatever of it is changed ahead. */
+    private static void asItGoes() {
+        DUE.part("as it goes");
+        for (Changes.Change change : Changes.all()) {
+            String name = change.name();
+            HotHall x = changed(change);
+            HotHall plain = changed(change);
+            HotHall other = changed(change);
+            int net = other.net(0);
+            other.net(net - 80);
+            long plainBroke = plain.minutes(9);
+            long otherBroke = other.minutes(9);
+            is(name + ": broke", x.other(1, -80, 9, 0), otherBroke - plainBroke);
+            is(name + ": coin", x.other(1, -80, 9, 1), other.now(7) - plain.now(7));
+            for (int d = 0; d < 4; d++) {
+                x.drill(d, name.equals("OUTSIDE") ? 231 : 130, net - 80, 6);
+            }
+            other = changed(change);
+            other.net(net - 80);
+            int broke = other.minutes(6);
+            other.net(net);
+            is(name + ": drilled", x.worst(1), broke + other.minutes(5));
+            x.begin();
+            x.minutes(30);
+            is(name + ": gone over again", x.check(), HotHall.NONE);
+        }
+    }
+
+    private static HotHall changed(Changes.Change change) {
+        HotHall x = Halls.busy();
+        change.on().accept(x);
+        return x;
     }
 
     // ---- THE BEST PLACING
@@ -769,14 +804,24 @@ public final class ForetoldEdgesTest {
         int[][] rows = {{0, 2000}, {1, 2009}, {2, 2009}, {3, 2009}, {4, 1409}, {5, 509}, {6, 208}, {7, 107}, {8, 206},
             {9, 505}};
         for (int[] row : rows) {
-            HotHall x = Halls.row(1);
-            x.batch(0, 900, 999, 0);
-            x.heat(0, 100 * row[0]);
-            x.minutes(19);
-            x.odds(1, 0, Halls.lotFor(0));
-            x.minutes(1);
-            is("at " + row[0], x.fitted(), row[1]);
+            is("at " + row[0], fittedOneOf(19, row[0]), row[1]);
         }
+        // 34 966^28 is 1.00002 times 35 965^28: A + 2 B is 34
+        is("34 rather than 35", fittedOneOf(28, 2), 1609);
+        // 63 937^15 is a little above 62 938^15: A + 5 B is 63
+        is("63 rather than 62", fittedOneOf(15, 5), 1809);
+    }
+
+    /** So many stood and then one failed at k. */
+    private static int fittedOneOf(int stood, int k) {
+        HotHall x = Halls.row(1);
+        x.batch(0, 900, 999, 0);
+        x.heat(0, 100 * k);
+        x.minutes(stood);
+        x.odds(1, 0, Halls.lotFor(0));
+        x.minutes(1);
+        is("failed", x.of(0, 3), 1);
+        return x.fitted();
     }
 
     // ---- DRILLS
@@ -828,13 +873,16 @@ public final class ForetoldEdgesTest {
             is("OUTSIDE was other in minute " + n, x.worst(1), 1);
             x.drill(1, 3, 100000, n);
             is("OUTSIDE was other in minute " + n, x.worst(1), n == 1 ? 0 : 1);
-            x = new HotHall();
-            x.room(0, 500, 0);
-            x.late(0);
-            x.machine(0, 0, 0, 1, 0);
-            x.drill(1, 2, 100000, n);
-            x.steady(0, n, n + 4, 3, -1);
-            is("OUTSIDE is as it is behind it", x.worst(1), 0);
+            // half of it goes each minute behind the drill: 50, 25, 13, 7, 4 or 99, 50, 25, 13, 7
+            for (int less = 0; less <= 1; less++) {
+                x = new HotHall();
+                x.room(0, 500, 0);
+                x.late(0);
+                x.machine(0, 0, 0, (n == 1 ? 4 : 7) - less, 0);
+                x.drill(1, 100, 100000, n);
+                x.steady(0, n + 4, n + 4, 3, -1);
+                is("OUTSIDE is as it is behind it", x.worst(1), less);
+            }
         }
     }
 

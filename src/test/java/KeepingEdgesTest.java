@@ -27,6 +27,11 @@ public final class KeepingEdgesTest {
         checkAcrossImages();
         imagesTwo();
         imagesKeepAllBut();
+        imagesKeepEach();
+        imagesKeepRanks();
+        imagesKeepWorks();
+        imagesKeepText();
+        imagesKeepTold();
         fromGoesOn();
         fromGoesBack();
         countEach();
@@ -561,6 +566,118 @@ public final class KeepingEdgesTest {
         x.begin();
         x.from(1);
         is("a new record stays, too", x.count(5), 0);
+    }
+
+    /** Each thing that is changed behind an image is as it was again; the record is begun anew, as it is no part of it. */
+    private static void imagesKeepEach() {
+        DUE.part("34 each");
+        HotHall untouched = Halls.busy();
+        untouched.image(0);
+        untouched.begin();
+        long[] due = Probe.answers(untouched);
+        for (Changes.Change change : Changes.all()) {
+            HotHall x = Halls.busy();
+            x.image(0);
+            change.on().accept(x);
+            x.from(0);
+            x.begin();
+            DUE.holds(change.name() + " is as it was", java.util.Arrays.equals(Probe.answers(x), due));
+            x = Halls.busy();
+            change.on().accept(x);
+            x.image(1);
+            long was = x.digest();
+            x.minutes(3);
+            x.from(0);
+            x.minutes(4);
+            x.begin();
+            x.from(1);
+            HotHall twin = Halls.busy();
+            change.on().accept(twin);
+            twin.image(1);
+            twin.begin();
+            DUE.holds(change.name() + " is kept, " + was, java.util.Arrays.equals(Probe.answers(x), Probe.answers(twin)));
+        }
+    }
+
+    /** RANKS are as they were for works that come behind it, too. */
+    private static void imagesKeepRanks() {
+        DUE.part("34 ranks");
+        HotHall x = Halls.one();
+        x.house(0, 5, 0, 0);
+        x.house(1, 4, 0, 0);
+        x.image(0);
+        x.house(1, 9, 0, 0);
+        x.from(0);
+        x.batch(0, 9, 9, -1);
+        x.batch(1, 9, 9, -1);
+        x.minutes(1);
+        is("4 is ahead of 5", x.of(0, 0), 1);
+    }
+
+    /** A WORK's HOUSE, kind, minutes, what it wants and its pin, though others had its number meanwhile. */
+    private static void imagesKeepWorks() {
+        DUE.part("34 works");
+        HotHall x = Halls.row(2);
+        x.image(0);
+        x.steady(3, 1, 2, 2, 1);
+        x.batch(4, 5, 1, 0);
+        x.image(1);
+        x.from(0);
+        x.batch(5, 900, 7, 0);
+        x.steady(6, 0, 9, 3, -1);
+        x.minutes(1);
+        x.from(1);
+        is("house", x.work(0, 3), 3);
+        is("house", x.work(1, 3), 4);
+        is("not yet", x.work(0, 0), 0);
+        x.minutes(1);
+        is("machine", x.work(1, 4), 0);
+        is("open", x.work(0, 0), 1);
+        x.minutes(1);
+        is("machine", x.work(0, 4), 1);
+        is("at no more than it wants", x.of(1, 1), 2);
+        is("kept", x.work(1, 0), 2);
+        x.minutes(1);
+        is("kept", x.work(0, 0), 2);
+    }
+
+    /** RULES are as they were for characters that come behind them, too. */
+    private static void imagesKeepText() {
+        DUE.part("34 text");
+        HotHall x = Halls.still();
+        Halls.put(x, "3-");
+        x.image(0);
+        Halls.put(x, "1)2");
+        x.from(0);
+        is("too early", x.fault(), 21);
+        is("behind it", x.write('1'), 3);
+        is("3-1", x.fault(), HotHall.NONE);
+        x.minutes(1);
+        is("3-1", x.now(1), 2);
+        is("erased", x.erase(), 3);
+        x.from(0);
+        is("two", x.count(4), 2);
+    }
+
+    /** What is told for ODDS is as it was. */
+    private static void imagesKeepTold() {
+        DUE.part("34 told");
+        HotHall x = Halls.row(1);
+        x.batch(0, 99, 99, 0);
+        x.minutes(1);
+        x.image(0);
+        x.odds(1, 0, Halls.lotFor(0));
+        x.minutes(1);
+        x.image(1);
+        is("one failed", x.fitted(), 2000);
+        for (int i = 0; i < 2; i++) {
+            x.from(0);
+            is("one stood", x.fitted(), 100);
+            is("one is told", x.count(6), 1);
+            x.from(1);
+            is("one failed, too", x.fitted(), 2000);
+            is("two are told", x.count(6), 2);
+        }
     }
 
     /** "the hall goes on from one": as it went on. */

@@ -1,12 +1,5 @@
 /** Each promise by hand. The numbers in the comments say how what is due comes about. */
 public final class PromisesTest {
-    private static final int BAD_HEAT = -2000000000;
-    private static final int NO_PLACING = -2100000000;
-    private static final long BAD_LONG = -2000000000000000000L;
-    private static final long NO_LONG = -2100000000000000000L;
-    private static final int MOST = Integer.MAX_VALUE;
-    private static final int LEAST = Integer.MIN_VALUE;
-
     private static final Due DUE = new Due();
 
     public static void main(String[] args) {
@@ -57,20 +50,6 @@ public final class PromisesTest {
         DUE.is(call, got, want);
     }
 
-    /** A hall in which heat stays where it is. */
-    private static HotHall still() {
-        HotHall x = new HotHall();
-        x.room(0, 0, 0);
-        return x;
-    }
-
-    private static void put(HotHall x, String text) {
-        x.erase();
-        for (int i = 0; i < text.length(); i++) {
-            x.write(text.charAt(i));
-        }
-    }
-
     private static long first(int values) {
         long h = 359;
         for (int i = 0; i < values; i++) {
@@ -114,8 +93,8 @@ public final class PromisesTest {
         HotHall x = new HotHall();
         is("most", x.room(500, 500, 200), 1);
         is("least", x.room(0, 0, 0), 1);
-        int[][] wrong = {{-1, 0, 0}, {501, 0, 0}, {0, -1, 0}, {0, 501, 0}, {0, 0, -1}, {0, 0, 201}, {MOST, 0, 0},
-            {0, LEAST, 0}, {0, 0, MOST}};
+        int[][] wrong = {{-1, 0, 0}, {501, 0, 0}, {0, -1, 0}, {0, 501, 0}, {0, 0, -1}, {0, 0, 201}, {Halls.MOST, 0, 0},
+            {0, Halls.LEAST, 0}, {0, 0, Halls.MOST}};
         x.room(300, 500, 0);
         for (int[] w : wrong) {
             is("wrong", x.room(w[0], w[1], w[2]), HotHall.BAD);
@@ -151,12 +130,12 @@ public final class PromisesTest {
         is("was 5", x.heat(0, 100000), 5);
         is("least", x.heat(0, 0), 100000);
         is("last", x.heat(11, 7), 0);
-        is("no cell", x.heat(12, 7), BAD_HEAT);
-        is("no cell", x.heat(-1, 7), BAD_HEAT);
-        is("too hot", x.heat(11, 100001), BAD_HEAT);
-        is("too cold", x.heat(11, -1), BAD_HEAT);
+        is("no cell", x.heat(12, 7), Halls.BAD_HEAT);
+        is("no cell", x.heat(-1, 7), Halls.BAD_HEAT);
+        is("too hot", x.heat(11, 100001), Halls.BAD_HEAT);
+        is("too cold", x.heat(11, -1), Halls.BAD_HEAT);
         is("as it was", x.cell(11, 0), 7);
-        x = still();
+        x = Halls.still();
         for (int i = 0; i < 10; i++) {
             x.machine(i, 500, 0, 5000, 0);
             x.steady(0, 0, 9999, 3, i);
@@ -169,7 +148,7 @@ public final class PromisesTest {
 
     private static void cooler() {
         DUE.part("4 cooler");
-        HotHall x = still();
+        HotHall x = Halls.still();
         x.heat(2, 300);
         x.heat(3, 150);
         x.heat(4, 100000);
@@ -209,7 +188,7 @@ public final class PromisesTest {
         is("wrong ahead of full", x.machine(1, 1, 1, 1, 4), HotHall.BAD);
         is("count", x.count(0), 10);
         is("cell", x.of(1, 4), 11);
-        x = still();
+        x = Halls.still();
         x.machine(6, 7, 11, 5000, 0);
         x.batch(0, 9, 9, 0);
         x.minutes(1);
@@ -220,7 +199,7 @@ public final class PromisesTest {
 
     private static void feed() {
         DUE.part("6 feed");
-        HotHall x = still();
+        HotHall x = Halls.still();
         is("was", x.feed(0, 59), 10000);
         is("was", x.feed(0, 30), 59);
         is("least", x.feed(3, 0), 10000);
@@ -256,7 +235,7 @@ public final class PromisesTest {
         x.feed(0, 29);
         x.minutes(1);
         is("the last one trips too", x.of(0, 2), 2);
-        x = still();
+        x = Halls.still();
         x.machine(0, 0, 1, 5000, 0);
         x.steady(0, 0, 9, 1, 0);
         x.feed(0, 0);
@@ -266,7 +245,7 @@ public final class PromisesTest {
 
     /** Machines of power 10 in cells 0, 1, 2, a batch pinned to each; works by the order 2, 0, 1. */
     private static HotHall three() {
-        HotHall x = still();
+        HotHall x = Halls.still();
         x.house(0, 5, 0, 0);
         x.house(1, 4, 0, 0);
         for (int i = 0; i < 3; i++) {
@@ -379,7 +358,7 @@ public final class PromisesTest {
 
     private static void late() {
         DUE.part("10 late");
-        HotHall x = still();
+        HotHall x = Halls.still();
         is("was", x.late(5), 1);
         is("was", x.late(0), 5);
         is("wrong", x.late(-1), HotHall.BAD);
@@ -394,14 +373,14 @@ public final class PromisesTest {
             x.late(d);
             is("gauge at " + d, x.cell(0, 1), 100 * (8 - d));
         }
-        x = still();
+        x = Halls.still();
         x.heat(0, 100);
         x.minutes(2);
         x.late(2);
         is("as the first minute began", x.cell(0, 1), 100);
         x.late(3);
         is("there was none", x.cell(0, 1), 0);
-        x = still();
+        x = Halls.still();
         x.machine(0, 0, 1, 150, 0);
         x.batch(0, 900, 99, 0);
         x.late(2);
@@ -421,8 +400,8 @@ public final class PromisesTest {
     private static void odds() {
         DUE.part("11 odds");
         HotHall x = new HotHall();
-        is("least", x.odds(0, 0, LEAST), 1);
-        is("most", x.odds(100, 100, MOST), 1);
+        is("least", x.odds(0, 0, Halls.LEAST), 1);
+        is("most", x.odds(100, 100, Halls.MOST), 1);
         int[][] wrong = {{-1, 0}, {101, 0}, {0, -1}, {0, 101}};
         for (int[] w : wrong) {
             is("wrong", x.odds(w[0], w[1], 5), HotHall.BAD);
@@ -431,7 +410,7 @@ public final class PromisesTest {
         int[][] rows = {{100, 0, 399, 0}, {32, 100, 300, 0}, {33, 100, 300, 1}, {33, 100, 299, 0}, {100, 100, 232, 0},
             {100, 77, 399, 0}, {100, 78, 300, 1}};
         for (int[] row : rows) {
-            x = still();
+            x = Halls.still();
             x.machine(0, 0, 1, 5000, 0);
             x.batch(0, 900, 99, 0);
             x.heat(0, row[2]);
@@ -447,36 +426,26 @@ public final class PromisesTest {
             is("for good", x.work(0, 1), row[3] == 1 ? 0 : 6);
             is("cause", x.work(0, 2), row[3] == 1 ? 1 : 0);
         }
-        x = still();
+        x = Halls.still();
         x.machine(0, 0, 0, 5000, 0);
         x.heat(0, 90000);
         x.odds(100, 100, 7);
         x.steady(0, 0, 5, 1, -1);
         x.minutes(1);
         is("fails at speed 1", x.of(0, 3), 1);
-        x = still();
+        x = Halls.still();
         x.machine(0, 0, 0, 5000, 0);
         x.odds(0, 0, 7);
         x.minutes(1);
-        is("no lot without a run", lot(x), 7);
+        is("no lot without a run", Halls.lot(x), 7);
         x.batch(0, 3, 9, -1);
         x.minutes(3);
-        is("one run, one lot, whatever the odds", lot(x), (int) 3429651764L);
-    }
-
-    /** What the digest ends with. */
-    private static long lot(HotHall x) {
-        long was = x.digest();
-        x.image(0);
-        x.odds(0, 0, 0);
-        long without = x.digest();
-        x.from(0);
-        return was - without;
+        is("one run, one lot, whatever the odds", Halls.lot(x), (int) 3429651764L);
     }
 
     private static void house() {
         DUE.part("12 house");
-        HotHall x = still();
+        HotHall x = Halls.still();
         is("least", x.house(0, 0, 0, 0), 1);
         is("most", x.house(7, 99, 1000, 1000), 1);
         int[][] wrong = {{-1, 0, 0, 0}, {8, 0, 0, 0}, {0, -1, 0, 0}, {0, 100, 0, 0}, {0, 0, -1, 0}, {0, 0, 1001, 0},
@@ -505,7 +474,7 @@ public final class PromisesTest {
 
     private static void batch() {
         DUE.part("13 batch");
-        HotHall x = still();
+        HotHall x = Halls.still();
         x.machine(0, 0, 0, 5000, 0);
         x.minutes(5);
         int[][] wrong = {{-1, 1, 9, -1}, {8, 1, 9, -1}, {0, 0, 9, -1}, {0, 1001, 9, -1}, {0, 1, 4, -1},
@@ -532,7 +501,7 @@ public final class PromisesTest {
         is("16 are there", x.batch(0, 1, 99, -1), HotHall.FULL);
         is("of steady ones, too", x.steady(0, 7, 9, 1, -1), HotHall.FULL);
         is("wrong ahead of full", x.batch(0, 0, 99, -1), HotHall.BAD);
-        x = still();
+        x = Halls.still();
         x.machine(0, 0, 0, 5000, 0);
         x.batch(0, 7, 2, -1);
         is("kept", x.minutes(3), 0);
@@ -542,7 +511,7 @@ public final class PromisesTest {
 
     private static void steady() {
         DUE.part("14 steady");
-        HotHall x = still();
+        HotHall x = Halls.still();
         x.machine(0, 0, 0, 5000, 0);
         x.minutes(2);
         int[][] wrong = {{-1, 2, 3, 1, -1}, {8, 2, 3, 1, -1}, {0, 1, 3, 1, -1}, {0, 4, 3, 1, -1}, {0, 2, 10000, 1, -1},
@@ -590,7 +559,7 @@ public final class PromisesTest {
         DUE.part("16 erase");
         HotHall x = new HotHall();
         is("none", x.erase(), 0);
-        put(x, "1+1");
+        Halls.put(x, "1+1");
         is("no fault", x.fault(), -1);
         is("3", x.erase(), 3);
         is("count", x.count(4), 0);
@@ -616,7 +585,7 @@ public final class PromisesTest {
             111, 11, 11, 21, 1, 11, 11};
         for (int i = 0; i < texts.length; i++) {
             HotHall x = new HotHall();
-            put(x, texts[i]);
+            Halls.put(x, texts[i]);
             is("fault of '" + texts[i] + "'", x.fault(), due[i]);
             x.minutes(1);
             if (due[i] != -1) {
@@ -639,62 +608,62 @@ public final class PromisesTest {
             999999L * 999999L * 999999L * 999999L > 0 ? 1 : 0, 3, 3, 2, 1, 1, 2, 1, 0, 0};
         for (int i = 0; i < texts.length; i++) {
             HotHall x = new HotHall();
-            put(x, texts[i]);
+            Halls.put(x, texts[i]);
             is("fault of '" + texts[i] + "'", x.fault(), -1);
             x.minutes(1);
             is("speed by '" + texts[i] + "'", x.now(1), due[i]);
         }
-        HotHall x = still();
+        HotHall x = Halls.still();
         x.heat(11, 500);
         x.heat(0, 900);
-        put(x, "(g=0)+(g=900)*2");
+        Halls.put(x, "(g=0)+(g=900)*2");
         x.minutes(1);
         is("the gauge is late", x.now(1), 1);
         x.minutes(1);
         is("the greatest gauge", x.now(1), 2);
         x.price(2, 77);
-        put(x, "(p=77)*2+(m=2)");
+        Halls.put(x, "(p=77)*2+(m=2)");
         x.minutes(1);
         is("price and minute", x.now(1), 3);
         x.store(100, 40, 50);
         x.minutes(1);
-        put(x, "(s=40)*3");
+        Halls.put(x, "(s=40)*3");
         x.minutes(1);
         is("what is in the store as the minute begins", x.now(1), 3);
         x.batch(0, 9, 99, -1);
         x.steady(0, 6, 6, 1, -1);
-        put(x, "w");
+        Halls.put(x, "w");
         x.minutes(1);
         is("one is open", x.now(1), 1);
         x.minutes(1);
         is("two are open", x.now(1), 2);
         for (int i = 0; i < 12; i++) {
-            x = still();
+            x = Halls.still();
             x.late(0);
             x.heat(i, 9);
-            put(x, "(g=9)*2");
+            Halls.put(x, "(g=9)*2");
             x.minutes(1);
             is("gauge of cell " + i, x.now(1), 2);
         }
-        x = still();
+        x = Halls.still();
         x.machine(0, 0, 0, 5000, 0);
         x.heat(0, 90000);
         x.odds(100, 100, 7);
         x.batch(0, 9, 99, -1);
-        put(x, "1+2*f");
+        Halls.put(x, "1+2*f");
         x.minutes(1);
         is("none failed", x.now(1), 1);
         x.minutes(1);
         is("one failed", x.now(1), 3);
-        put(x, "-1+1*1+1*1+1*1+1*1+1*1+1*1+1*1+1*1+1*1+1*1+1*1+1*1+1*1+1*1-11");
+        Halls.put(x, "-1+1*1+1*1+1*1+1*1+1*1+1*1+1*1+1*1+1*1+1*1+1*1+1*1+1*1+1*1-11");
         is("60 characters at most", x.count(4), 60);
         is("the last that is taken is a 1", x.fault(), -1);
-        put(x, "0+(0+(0+(0+(0+(0+(0+(0+(1+1*1))))))))+0");
+        Halls.put(x, "0+(0+(0+(0+(0+(0+(0+(0+(1+1*1))))))))+0");
         x.minutes(1);
         is("eight deep", x.now(1), 2);
-        put(x, "------------------------------------------------------------");
+        Halls.put(x, "------------------------------------------------------------");
         is("a unit is lacking", x.fault(), 601);
-        put(x, "-----------------------------------------------------------1");
+        Halls.put(x, "-----------------------------------------------------------1");
         is("59 minuses", x.fault(), -1);
         x.minutes(1);
         is("below 0", x.now(1), 0);
@@ -702,10 +671,10 @@ public final class PromisesTest {
 
     private static void minutes() {
         DUE.part("18 minutes");
-        HotHall x = still();
+        HotHall x = Halls.still();
         is("wrong", x.minutes(0), HotHall.BAD);
         is("wrong", x.minutes(61), HotHall.BAD);
-        is("wrong", x.minutes(LEAST), HotHall.BAD);
+        is("wrong", x.minutes(Halls.LEAST), HotHall.BAD);
         x.batch(0, 1, 0, -1);
         x.batch(0, 1, 58, -1);
         x.batch(0, 1, 59, -1);
@@ -726,21 +695,21 @@ public final class PromisesTest {
 
     private static void cell() {
         DUE.part("19 cell");
-        HotHall x = still();
+        HotHall x = Halls.still();
         x.heat(11, 44);
         is("heat", x.cell(11, 0), 44);
         is("gauge", x.cell(11, 1), 0);
         x.minutes(1);
         is("gauge", x.cell(11, 1), 44);
-        is("wrong", x.cell(12, 0), BAD_HEAT);
-        is("wrong", x.cell(-1, 0), BAD_HEAT);
-        is("wrong", x.cell(0, 2), BAD_HEAT);
-        is("wrong", x.cell(0, -1), BAD_HEAT);
+        is("wrong", x.cell(12, 0), Halls.BAD_HEAT);
+        is("wrong", x.cell(-1, 0), Halls.BAD_HEAT);
+        is("wrong", x.cell(0, 2), Halls.BAD_HEAT);
+        is("wrong", x.cell(0, -1), Halls.BAD_HEAT);
     }
 
     private static void of() {
         DUE.part("20 of");
-        HotHall x = still();
+        HotHall x = Halls.still();
         is("none is there", x.of(0, 0), HotHall.BAD);
         x.machine(9, 0, 0, 5000, 0);
         x.machine(3, 0, 0, 5000, 0);
@@ -757,11 +726,11 @@ public final class PromisesTest {
         x.minutes(1);
         is("none in the last minute", x.of(0, 0), HotHall.NONE);
         is("none in the last minute", x.of(0, 1), 0);
-        int[][] wrong = {{2, 0}, {-1, 0}, {0, 5}, {0, -1}, {MOST, 0}, {LEAST, 0}};
+        int[][] wrong = {{2, 0}, {-1, 0}, {0, 5}, {0, -1}, {Halls.MOST, 0}, {Halls.LEAST, 0}};
         for (int[] w : wrong) {
             is("wrong", x.of(w[0], w[1]), HotHall.BAD);
         }
-        x = still();
+        x = Halls.still();
         x.machine(0, 0, 0, 5000, 0);
         x.machine(1, 0, 0, 5000, 0);
         x.machine(2, 0, 0, 5000, 0);
@@ -784,7 +753,7 @@ public final class PromisesTest {
 
     private static void work() {
         DUE.part("21 work");
-        HotHall x = still();
+        HotHall x = Halls.still();
         is("none is there", x.work(0, 0), HotHall.BAD);
         x.machine(9, 0, 0, 5000, 0);
         x.batch(3, 4, 1, -1);
@@ -801,7 +770,7 @@ public final class PromisesTest {
         x.minutes(1);
         is("none in the last minute", x.work(0, 4), HotHall.NONE);
         is("still kept", x.work(0, 0), 2);
-        int[][] wrong = {{1, 0}, {-1, 0}, {0, 5}, {0, -1}, {MOST, 0}, {LEAST, 0}};
+        int[][] wrong = {{1, 0}, {-1, 0}, {0, 5}, {0, -1}, {Halls.MOST, 0}, {Halls.LEAST, 0}};
         for (int[] w : wrong) {
             is("wrong", x.work(w[0], w[1]), HotHall.BAD);
         }
@@ -809,14 +778,14 @@ public final class PromisesTest {
 
     private static void causes() {
         DUE.part("causes");
-        HotHall x = still();
+        HotHall x = Halls.still();
         x.machine(0, 0, 0, 5000, 0);
         x.batch(0, 50, 20, 0);
-        put(x, "2");
+        Halls.put(x, "2");
         x.minutes(1);
         is("a batch at speed 2 is slow", x.work(0, 2), 6);
         is("but done by 2", x.work(0, 1), 2);
-        put(x, "0");
+        Halls.put(x, "0");
         x.minutes(1);
         is("by the rules", x.work(0, 2), 2);
         is("its machine has it", x.of(0, 0), 0);
@@ -825,22 +794,22 @@ public final class PromisesTest {
         x.erase();
         x.minutes(1);
         is("the last minute in which it was not done at speed 3", x.work(0, 2), 2);
-        x = still();
+        x = Halls.still();
         x.machine(0, 0, 0, 5000, 0);
         x.steady(0, 0, 5, 2, 0);
-        put(x, "1");
+        Halls.put(x, "1");
         x.minutes(1);
         is("slow", x.work(0, 2), 6);
         is("not done", x.work(0, 1), 0);
-        put(x, "0");
+        Halls.put(x, "0");
         x.minutes(1);
         is("that of the first", x.work(0, 2), 6);
-        put(x, "3");
+        Halls.put(x, "3");
         x.minutes(4);
         is("done in four", x.work(0, 1), 4);
         is("broken", x.work(0, 0), 3);
         // a steady work that wants 1 is done on a machine that is too hot
-        x = still();
+        x = Halls.still();
         x.machine(0, 0, 0, 10, 0);
         x.late(0);
         x.heat(0, 11);
@@ -853,7 +822,7 @@ public final class PromisesTest {
     /** Ten machines and 16 works: all rows are full. */
     private static void fullHall() {
         DUE.part("a full hall");
-        HotHall x = still();
+        HotHall x = Halls.still();
         for (int i = 0; i < 10; i++) {
             x.machine(i, 1, 1, 5000, i % 4);
         }
@@ -880,14 +849,14 @@ public final class PromisesTest {
         x.store(100, 40, 50);
         x.heat(4, 10);
         x.heat(5, 30);
-        put(x, "2");
+        Halls.put(x, "2");
         x.minutes(1);
         long[] due = {1, 2, 40, 60, 3, 0, 40, 1000};
         for (int i = 0; i < 8; i++) {
             is("now " + i, x.now(i), due[i]);
         }
-        is("wrong", x.now(-1), BAD_LONG);
-        is("wrong", x.now(8), BAD_LONG);
+        is("wrong", x.now(-1), Halls.BAD_LONG);
+        is("wrong", x.now(8), Halls.BAD_LONG);
         x.odds(100, 100, 0);
         x.heat(0, 90000);
         x.heat(2, 90000);
@@ -897,11 +866,11 @@ public final class PromisesTest {
 
     private static void placing() {
         DUE.part("23 placing");
-        HotHall x = still();
+        HotHall x = Halls.still();
         x.late(0);
         is("0 of none", x.placing(-1), 0);
-        is("wrong", x.placing(0), BAD_HEAT);
-        is("wrong", x.placing(-2), BAD_HEAT);
+        is("wrong", x.placing(0), Halls.BAD_HEAT);
+        is("wrong", x.placing(-2), Halls.BAD_HEAT);
         x.batch(0, 9, 9, -1);
         is("no machine", x.placing(0), HotHall.NONE);
         is("no machine", x.placing(-1), 0);
@@ -932,16 +901,16 @@ public final class PromisesTest {
         is("work 3", x.placing(3), 0);
         is("work 4", x.placing(4), 2);
         x.steady(0, 5, 5, 1, -1);
-        is("not open", x.placing(5), BAD_HEAT);
+        is("not open", x.placing(5), Halls.BAD_HEAT);
         for (int i = 0; i < 3; i++) {
             x.batch(0, 9, 9, -1);
         }
         is("8 are open", x.placing(-1), 37);
         x.batch(0, 9, 9, -1);
-        is("9 are open", x.placing(-1), NO_PLACING);
-        is("9 are open", x.placing(9), NO_PLACING);
-        is("wrong ahead of that", x.placing(10), BAD_HEAT);
-        x = still();
+        is("9 are open", x.placing(-1), Halls.NO_PLACING);
+        is("9 are open", x.placing(9), Halls.NO_PLACING);
+        is("wrong ahead of that", x.placing(10), Halls.BAD_HEAT);
+        x = Halls.still();
         x.machine(0, 0, 10, 5000, 0);
         x.machine(1, 0, 10, 5000, 0);
         x.machine(2, 0, 10, 5000, 0);
@@ -957,7 +926,7 @@ public final class PromisesTest {
         is("sum of the gauges, not of the heats", x.placing(-1), 5);
         x.heat(0, 77);
         is("sum of the gauges, not of the heats", x.placing(-1), 5);
-        x = still();
+        x = Halls.still();
         x.machine(0, 0, 0, 5000, 0);
         x.machine(1, 0, 0, 5000, 0);
         x.batch(0, 99, 9, -1);
@@ -973,7 +942,7 @@ public final class PromisesTest {
 
     private static void without() {
         DUE.part("24 without");
-        HotHall x = still();
+        HotHall x = Halls.still();
         is("wrong", x.without(0), HotHall.BAD);
         is("wrong", x.without(31), HotHall.BAD);
         is("none", x.without(1), 0);
@@ -999,24 +968,24 @@ public final class PromisesTest {
         x.batch(0, 9, 900, -1);
         is("9 are open", x.without(2), HotHall.NO);
         is("wrong ahead of that", x.without(0), HotHall.BAD);
-        x = still();
+        x = Halls.still();
         x.machine(0, 0, 10, 5000, 0);
         x.machine(1, 0, 10, 5000, 1);
         x.steady(0, 0, 5, 3, 0);
         x.steady(0, 0, 5, 3, 1);
-        put(x, "3-w+1");
+        Halls.put(x, "3-w+1");
         is("what is left out isn't counted as open", x.without(9), 1);
     }
 
     private static void other() {
         DUE.part("25 other");
-        HotHall x = still();
+        HotHall x = Halls.still();
         int[][] wrong = {{-1, 0, 1, 0}, {6, 0, 1, 0}, {0, -100001, 1, 0}, {0, 100001, 1, 0}, {0, 0, 0, 0},
-            {0, 0, 31, 0}, {0, 0, 1, -1}, {0, 0, 1, 2}, {5, 12, 1, 0}, {5, -1, 1, 0}, {5, LEAST, 1, 0}};
+            {0, 0, 31, 0}, {0, 0, 1, -1}, {0, 0, 1, 2}, {5, 12, 1, 0}, {5, -1, 1, 0}, {5, Halls.LEAST, 1, 0}};
         for (int[] w : wrong) {
-            is("wrong", x.other(w[0], w[1], w[2], w[3]), BAD_LONG);
+            is("wrong", x.other(w[0], w[1], w[2], w[3]), Halls.BAD_LONG);
         }
-        is("no machine 0", x.other(5, 0, 1, 0), NO_LONG);
+        is("no machine 0", x.other(5, 0, 1, 0), Halls.NO_LONG);
         is("nothing other", x.other(0, 0, 1, 0), 0);
         x.machine(0, 0, 10, 5000, 0);
         x.steady(0, 0, 4, 3, -1);
@@ -1038,8 +1007,8 @@ public final class PromisesTest {
             is("nine are there", x.other(5, 0, 1, 0), 0);
             x.machine(1, 0, 0, 5000, 1);
         }
-        is("ten are there", x.other(5, 0, 1, 0), NO_LONG);
-        is("wrong ahead of that", x.other(5, 12, 1, 0), BAD_LONG);
+        is("ten are there", x.other(5, 0, 1, 0), Halls.NO_LONG);
+        is("wrong ahead of that", x.other(5, 12, 1, 0), Halls.BAD_LONG);
         // a machine that is slow above 100
         x = new HotHall();
         x.room(100, 500, 0);
@@ -1056,7 +1025,7 @@ public final class PromisesTest {
         is("AIR less is 0", x.other(2, -5, 5, 0), 0);
         x.room(0, 0, 100);
         is("AIR 100 less: nothing comes, the work is kept", x.other(2, -100, 5, 0), -1);
-        x = still();
+        x = Halls.still();
         x.late(0);
         x.machine(3, 0, 0, 100, 0);
         x.heat(3, 300);
@@ -1067,7 +1036,7 @@ public final class PromisesTest {
         is("no less than 0", x.other(3, -100000, 5, 0), -1);
         otherMachine();
         for (int i = 0; i < 12; i++) {
-            x = still();
+            x = Halls.still();
             x.late(0);
             x.machine(i, 0, 0, 100, 0);
             x.heat(i, 300);
@@ -1079,7 +1048,7 @@ public final class PromisesTest {
 
     /** Machine 1 differs from machine 0 in all, and the work is too much for one: only one like 0 helps. */
     private static void otherMachine() {
-        HotHall x = still();
+        HotHall x = Halls.still();
         x.late(0);
         x.machine(0, 40, 10, 100, 2);
         x.machine(1, 500, 500, 1, 1);
@@ -1092,7 +1061,7 @@ public final class PromisesTest {
         is("40 more at 10", x.other(5, 5, 3, 1), 400);
         x.heat(0, 200);
         is("the first is slow, the new one is cooler", x.other(5, 6, 1, 1), 200);
-        x = still();
+        x = Halls.still();
         x.machine(0, 0, 10, 5000, 0);
         x.odds(100, 100, 7);
         x.heat(0, 90000);
@@ -1105,7 +1074,7 @@ public final class PromisesTest {
 
     private static void fitted() {
         DUE.part("26 fitted");
-        HotHall x = still();
+        HotHall x = Halls.still();
         is("nothing is told", x.fitted(), HotHall.NONE);
         x.machine(0, 0, 0, 5000, 0);
         x.minutes(3);
@@ -1118,14 +1087,14 @@ public final class PromisesTest {
         x.minutes(1);
         // told: 0 stood, 3 failed. (1000 - A)(A + 3 B) grows with both
         is("one failed at 300", x.fitted(), 2009);
-        x = still();
+        x = Halls.still();
         x.machine(0, 0, 0, 5000, 0);
         x.batch(0, 900, 999, 0);
         x.odds(100, 0, lotFor(true));
         x.minutes(1);
         is("failed", x.of(0, 3), 1);
         is("one failed at 0: B is as it may be", x.fitted(), 2000);
-        x = still();
+        x = Halls.still();
         x.machine(0, 0, 0, 5000, 0);
         x.batch(0, 900, 999, 0);
         x.heat(0, 250);
@@ -1137,7 +1106,7 @@ public final class PromisesTest {
         // p (1000 - p)^59 is greatest at p = 1000 / 60 = 16.67: 16 or 17. 17 983^59 is above 16 984^59 by a little.
         // p = A + 2 B; 17 = 1 + 2 8 comes first by A
         is("one of 60 failed", x.fitted(), 108);
-        x = still();
+        x = Halls.still();
         x.machine(0, 0, 0, 5000, 0);
         x.machine(1, 0, 0, 5000, 0);
         x.batch(0, 900, 999, 0);
@@ -1148,7 +1117,7 @@ public final class PromisesTest {
         x.heat(0, 90000);
         x.minutes(1);
         is("what comes later isn't told", x.fitted(), 100);
-        x = still();
+        x = Halls.still();
         x.machine(0, 0, 0, 5000, 0);
         x.batch(0, 900, 999, 0);
         x.heat(0, 100000);
@@ -1164,7 +1133,7 @@ public final class PromisesTest {
 
     /** 19 stood and one failed at k: the first A and B with A + k B nearest to 50 is told. */
     private static void fittedAt(int heat, int k) {
-        HotHall x = still();
+        HotHall x = Halls.still();
         x.machine(0, 0, 0, 5000, 0);
         x.batch(0, 900, 999, 0);
         x.heat(0, heat);
@@ -1208,7 +1177,7 @@ public final class PromisesTest {
 
     private static void worst() {
         DUE.part("28 worst");
-        HotHall x = still();
+        HotHall x = Halls.still();
         is("none was told", x.worst(0), HotHall.NONE);
         is("none was told", x.worst(1), HotHall.NONE);
         is("wrong", x.worst(2), HotHall.BAD);
@@ -1251,7 +1220,7 @@ public final class PromisesTest {
 
     private static void bill() {
         DUE.part("29 bill");
-        HotHall x = still();
+        HotHall x = Halls.still();
         is("wrong", x.bill(-1), -100000000);
         is("wrong", x.bill(8), -100000000);
         x.machine(0, 0, 0, 5000, 0);
@@ -1290,17 +1259,17 @@ public final class PromisesTest {
     private static void record() {
         DUE.part("31 record");
         HotHall x = new HotHall();
-        is("none", x.record(0), BAD_LONG);
-        is("wrong", x.record(-1), NO_LONG);
+        is("none", x.record(0), Halls.BAD_LONG);
+        is("wrong", x.record(-1), Halls.NO_LONG);
         x.begin();
         x.minutes(2);
         is("12 times 2", x.record(0), 24);
         is("12 times 3", x.record(1), 36);
-        is("not so many", x.record(2), BAD_LONG);
-        is("not so many", x.record(MOST), BAD_LONG);
-        is("wrong", x.record(LEAST), NO_LONG);
+        is("not so many", x.record(2), Halls.BAD_LONG);
+        is("not so many", x.record(Halls.MOST), Halls.BAD_LONG);
+        is("wrong", x.record(Halls.LEAST), Halls.NO_LONG);
         x.minutes(50);
-        is("not so many", x.record(40), BAD_LONG);
+        is("not so many", x.record(40), Halls.BAD_LONG);
         is("the 40th", x.record(39) > 0 ? 1 : 0, 1);
     }
 
@@ -1316,7 +1285,7 @@ public final class PromisesTest {
         is("forged", x.record(1), Long.MIN_VALUE);
         is("no such one", x.forge(2, 1), HotHall.BAD);
         is("no such one", x.forge(-1, 1), HotHall.BAD);
-        is("no such one", x.forge(MOST, 1), HotHall.BAD);
+        is("no such one", x.forge(Halls.MOST, 1), HotHall.BAD);
     }
 
     private static void check() {
@@ -1343,7 +1312,7 @@ public final class PromisesTest {
         x.minutes(1);
         is("gone over by what the image has", x.check(), 2);
         // going back to an image goes on with the record, too
-        x = still();
+        x = Halls.still();
         x.heat(0, 5);
         x.begin();
         x.image(0);
@@ -1426,19 +1395,19 @@ public final class PromisesTest {
         x.house(v, v, v, v);
         x.batch(v, 50 + v, (int) x.now(0) + 12, -1);
         x.steady(v, (int) x.now(0) + 1, (int) x.now(0) + 9, v, 0);
-        put(x, v == 1 ? "3-g/200" : "3-");
+        Halls.put(x, v == 1 ? "3-g/200" : "3-");
     }
 
     private static void count() {
         DUE.part("36 count");
-        HotHall x = still();
+        HotHall x = Halls.still();
         x.machine(0, 0, 0, 5000, 0);
         x.machine(1, 0, 0, 5000, 0);
         x.batch(0, 3, 0, 0);
         x.batch(0, 3, 0, 0);
         x.batch(0, 3, 0, 0);
         x.batch(0, 99, 99, 1);
-        put(x, "3+0+0");
+        Halls.put(x, "3+0+0");
         x.begin();
         x.minutes(3);
         int[] due = {2, 4, 1, 2, 5, 3, 4};

@@ -1,4 +1,6 @@
 import java.util.Arrays;
+import java.util.List;
+import java.util.function.Consumer;
 
 /**
  * "Refused, changing nothing, the first of: BAD -2 a number is not as told; NO -3 as told; FULL -4." For each number of
@@ -17,6 +19,8 @@ public final class RefusalsTest {
 
     private static final int NEW = 0, BUSY = 1, FULL = 2, HALLS = 3;
     private static final String[] NAMES = {"a new hall", "a busy hall", "a full hall"};
+    private static final List<String> ANSWER_ONE = List.of("room", "cooler", "store", "odds", "house", "drill", "image",
+        "from", "forge");
     private static final Due DUE = new Due();
     private static final long[][] UNTOUCHED = new long[HALLS][];
 
@@ -65,67 +69,37 @@ public final class RefusalsTest {
 
     // ---- what the probe sees, so that "nothing has changed" says something
 
-    private static void sees(String what, Call change) {
+    private static void sees(String what, Consumer<HotHall> change) {
         HotHall x = make(BUSY);
-        change.on(x);
+        change.accept(x);
         DUE.holds("the probe sees " + what, !Arrays.equals(Probe.answers(x), UNTOUCHED[BUSY]));
     }
 
     private static void probeSeesAll() {
         DUE.part("probe");
-        sees("OUTSIDE", x -> x.room(131, 37, 83));
-        sees("WALLS", x -> x.room(130, 38, 83));
-        sees("AIR", x -> x.room(130, 37, 84));
-        sees("NET", x -> x.net(169));
-        sees("ROOM", x -> x.store(89, 14, 11));
-        sees("RATE", x -> x.store(90, 13, 11));
-        sees("HIGH", x -> x.store(90, 14, 12));
-        sees("D", x -> x.late(1));
-        sees("A", x -> x.odds(60, 1, lotOf()));
-        sees("B", x -> x.odds(2, 60, lotOf()));
-        sees("the LOT", x -> x.odds(2, 1, 4712));
-        for (int c = 0; c < 12; c++) {
-            int cell = c;
-            sees("HEAT of " + c, x -> x.heat(cell, x.cell(cell, 0) + 1));
-            sees("what the cooler takes of " + c, x -> x.cooler(cell, 19 + cell, 100 + 5 * cell));
-            sees("AIM of " + c, x -> x.cooler(cell, 20 + cell, 101 + 5 * cell));
-        }
-        for (int i = 0; i < 4; i++) {
-            int feed = i;
-            sees("FEED " + i, x -> x.feed(feed, 89 + 9 * feed));
-            sees("DRILL " + i, x -> x.drill(feed, 500, 0, 25));
-        }
-        for (int i = 0; i < 24; i++) {
-            int minute = i;
-            sees("PRICE " + i, x -> x.price(minute, 6 + 7 * minute % 13));
+        for (Changes.Change change : Changes.all()) {
+            if (!change.name().startsWith("FEE of") && !change.name().startsWith("CREDIT of")) {
+                sees(change.name(), change.on());
+            }
         }
         for (int i = 0; i < 8; i++) {
             int house = i;
-            sees("RANK of " + i, x -> x.house(house, 3 * house % 5 == 4 ? 0 : 99, 10 + house, 100 + 7 * house));
             sees("FEE or CREDIT of " + i, x -> x.house(house, 3 * house % 5, 11 + house, 101 + 7 * house));
         }
-        sees("a machine", x -> x.machine(0, 0, 0, 5000, 0));
-        sees("a batch", x -> x.batch(0, 1, 9999, -1));
-        sees("a steady work", x -> x.steady(0, 9999, 9999, 1, -1));
-        sees("a character", x -> x.write(' '));
-        sees("other rules", x -> {
-            Halls.put(x, "3-(g>190)-w/8");
-            return 0;
-        });
-        sees("a minute", x -> x.minutes(1));
+        for (int i = 0; i < 4; i++) {
+            int drill = i;
+            sees("DRILL " + i, x -> x.drill(drill, 500, 0, 25));
+        }
         sees("a record", x -> x.begin());
         for (int i = 0; i < 12; i++) {
             int minute = i;
             sees("sum " + i, x -> x.forge(minute, x.record(minute) + 1));
         }
-        sees("image 0", x -> x.image(0));
-        sees("image 1", x -> x.image(1));
-        sees("from 0", x -> x.from(0));
-        sees("from 1", x -> x.from(1));
-    }
-
-    private static int lotOf() {
-        return (int) Halls.lot(make(BUSY));
+        for (int i = 0; i < 2; i++) {
+            int image = i;
+            sees("image " + i, x -> x.image(image));
+            sees("from " + i, x -> x.from(image));
+        }
     }
 
     // ---- what is refused and what is taken
@@ -153,6 +127,9 @@ public final class RefusalsTest {
         boolean isRefusal = got == HotHall.BAD || got == HotHall.NO || got == HotHall.FULL || got == Halls.BAD_HEAT
             || got == Halls.BAD_LONG || got == Halls.NO_PLACING || got == Halls.NO_LONG || got == Halls.BAD_BILL;
         DUE.holds(call + " is taken in " + NAMES[hall], !isRefusal);
+        if (ANSWER_ONE.contains(call.split("[ \\[]")[0])) {
+            DUE.is(call + " in " + NAMES[hall], got, 1);
+        }
     }
 
     /** Each number of a row goes to its ends and beyond, the others being usual. */
@@ -221,7 +198,7 @@ public final class RefusalsTest {
         DUE.part("11 odds");
         ends("odds", HotHall.BAD, new int[] {4, 4}, pairs(0, 100, 0, 100), (x, r) -> x.odds(r[0], r[1], 5));
         for (int lot : new int[] {Halls.LEAST, -1, 0, 1, Halls.MOST}) {
-            taken(BUSY, "the lot " + lot, x -> x.odds(4, 4, lot));
+            taken(BUSY, "odds with lot " + lot, x -> x.odds(4, 4, lot));
         }
     }
 

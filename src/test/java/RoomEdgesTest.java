@@ -496,7 +496,13 @@ public final class RoomEdgesTest {
     private static void gaugesByMinutes() {
         DUE.part("gauges");
         HotHall x = hall(0, 0, 0);
-        is("1 at first", x.late(1), 1);
+        is("1 at first", x.late(0), 1);
+        for (int d = 1; d <= 5; d++) {
+            is("what it was", x.late(d), d - 1);
+        }
+        is("below 0", x.late(-1), HotHall.BAD);
+        is("above 5", x.late(6), HotHall.BAD);
+        is("what it was", x.late(0), 5);
         for (int m = 0; m < 12; m++) {
             x.heat(11, 1000 + m);
             for (int d = 0; d <= 5; d++) {

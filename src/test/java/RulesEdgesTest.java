@@ -44,13 +44,13 @@ public final class RulesEdgesTest {
         }
     }
 
-    /** By texts of 57 characters at most: whether it is worked to v. */
+    /** Texts of 60 characters at most with what is put around: whether it is worked to v. */
     private static void worked(String text, String v) {
         HotHall x = Halls.still();
-        Halls.put(x, "(" + text + ")=" + v);
+        Halls.put(x, "(" + text + ")-(" + v + ")+2");
         is("fault of '" + text + "'", x.fault(), HotHall.NONE);
         x.minutes(1);
-        is("whether '" + text + "' is " + v, x.now(1), 1);
+        is("2 more than '" + text + "' less " + v, x.now(1), 2);
     }
 
     private static String many(String part, int times) {
