@@ -25,6 +25,7 @@ public final class ForetoldEdgesTest {
         otherNet();
         otherAir();
         otherAim();
+        otherAimWhereHeatComes();
         otherRate();
         otherMachine();
         otherMachinesThere();
@@ -493,6 +494,13 @@ public final class ForetoldEdgesTest {
             is("NET " + row[0] + ", " + row[1] + " more", x.other(1, row[1], 1, 1), row[2]);
             is("two minutes", x.other(1, row[1], 2, 1), 2 * row[2]);
         }
+        HotHall x = Halls.still();
+        x.machine(0, 0, 500, 5000, 0);
+        x.batch(0, 9, 9, 0);
+        x.store(100000, 10000, 1000);
+        x.net(500);
+        is("nothing is drawn, 500 are stored; or 1500 are drawn, 9999 are stored", x.other(1, 10999, 1, 1), 109990);
+        is("no more than RATE", x.other(1, 100000, 1, 1), 110000);
     }
 
     /** "2 AIR": 0 .. 200; 1000 beside a machine's cell sends it 200 at most. */
@@ -531,6 +539,28 @@ public final class ForetoldEdgesTest {
                 is("AIM " + row[0] + ", " + row[2] + " more, cell " + c, x.other(3, row[2], 2, 0), row[3]);
             }
         }
+    }
+
+    /** What comes through walls each minute is taken down to the AIM again. */
+    private static void otherAimWhereHeatComes() {
+        DUE.part("other aim where heat comes");
+        HotHall x = new HotHall();
+        x.room(500, 100, 0);
+        x.late(0);
+        x.cooler(6, 10000, 200);
+        x.heat(6, 200);
+        x.machine(6, 0, 0, 199, 0);
+        x.steady(0, 1, 3, 3, 0);
+        is("1 less", x.other(3, -1, 4, 0), -1);
+        x = new HotHall();
+        x.room(500, 100, 0);
+        x.late(0);
+        x.cooler(6, 10000, 200);
+        x.heat(6, 200);
+        x.machine(6, 0, 0, 200, 0);
+        x.steady(0, 1, 3, 3, 0);
+        is("1 more", x.other(3, 1, 4, 0), 1);
+        is("none more", x.other(3, 0, 4, 0), 0);
     }
 
     /** "4 THE STORE's RATE": 0 .. 10000. */
@@ -583,6 +613,13 @@ public final class ForetoldEdgesTest {
         is("makes 120: slow in its second minute, as machine 0", x.other(5, 4, 2, 0), 0);
         is("30 and 10", x.other(5, 4, 2, 1), 400);
         is("in machine 0's cell", x.other(5, 3, 2, 1), 400);
+        x = Halls.still();
+        x.late(0);
+        x.machine(3, 40, 10, 120, 2);
+        x.steady(0, 0, 1, 3, -1);
+        x.steady(0, 0, 1, 3, -1);
+        is("120 is not above 120", x.other(5, 4, 2, 1), 600);
+        is("one less breaks", x.other(5, 4, 2, 0), -1);
     }
 
     /** "NO: no MACHINE 0, or 10 are there"; the new one is as good as new. */
@@ -882,6 +919,14 @@ public final class ForetoldEdgesTest {
                 x.drill(1, 100, 100000, n);
                 x.steady(0, n + 4, n + 4, 3, -1);
                 is("OUTSIDE is as it is behind it", x.worst(1), less);
+                // from 0 toward 20: 10, 15, 17, 18
+                x = new HotHall();
+                x.room(20, 500, 0);
+                x.late(0);
+                x.machine(0, 0, 0, 18 - less, 0);
+                x.drill(1, 0, 100000, n);
+                x.steady(0, n + 4, n + 4, 3, -1);
+                is("OUTSIDE is 20 behind it", x.worst(1), less);
             }
         }
     }

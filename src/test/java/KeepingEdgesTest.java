@@ -678,6 +678,21 @@ public final class KeepingEdgesTest {
             is("one failed, too", x.fitted(), 2000);
             is("two are told", x.count(6), 2);
         }
+        x = Halls.row(2);
+        x.batch(0, 900, 999, 0);
+        x.heat(0, 200);
+        x.heat(1, 900);
+        x.minutes(28);
+        x.odds(1, 0, Halls.lotFor(0));
+        x.minutes(1);
+        is("28 stood and one failed at 2: 34", x.fitted(), 1609);
+        x.image(0);
+        x.odds(0, 0, 0);
+        x.batch(0, 900, 999, 1);
+        x.minutes(20);
+        is("20 more stood at 9: the greatest A, no B", x.fitted(), 2000);
+        x.from(0);
+        is("34 again", x.fitted(), 1609);
     }
 
     /** "the hall goes on from one": as it went on. */

@@ -42,6 +42,7 @@ public final class MinuteEdgesTest {
         oddsBelowZero();
         oddsAtHeatOfG();
         lotsByNumbers();
+        failedOfThree();
         lotsOnlyForRunning();
         failedForGood();
         failedNotDone();
@@ -717,12 +718,14 @@ public final class MinuteEdgesTest {
     /** "else from THE NET, and what that has not from THE STORE". */
     private static void storeGivesLast() {
         DUE.part("net first");
-        // net, what the store gives of 90, what it takes
-        int[][] rows = {{90, 0, 0}, {89, 1, 0}, {50, 40, 0}, {0, 90, 0}, {91, 0, 1}, {100, 0, 10}, {1000, 0, 200}};
+        // net, what the store gives of 90, what it takes, its RATE
+        int[][] rows = {{90, 0, 0, 200}, {89, 1, 0, 200}, {89, 1, 0, 1}, {50, 40, 0, 200}, {50, 40, 0, 40},
+            {0, 90, 0, 200}, {0, 90, 0, 90}, {91, 0, 1, 200}, {91, 0, 1, 1}, {100, 0, 10, 200}, {100, 0, 9, 9},
+            {1000, 0, 200, 200}};
         for (int[] row : rows) {
             HotHall x = stored(100);
             long coin = x.now(7);
-            x.store(1000, 200, 11);
+            x.store(1000, row[3], 11);
             x.net(row[0]);
             x.minutes(1);
             is("drawn", x.now(3), 90);
@@ -883,9 +886,33 @@ public final class MinuteEdgesTest {
             int lot = start;
             for (int m = 0; m < 3; m++) {
                 lot = Halls.nextLot(lot);
-                is("machine " + m, x.of(m, 3), (lot >>> 16) % 1000 < 250 ? 1 : 0);
+                boolean fails = (lot >>> 16) % 1000 < 250;
+                is("machine " + m, x.of(m, 3), fails ? 1 : 0);
+                works(x, 2 - m, OPEN, fails ? 0 : 3, fails ? BY_FAILING : 0);
             }
             is("three lots", Halls.lot(x), lot);
+        }
+    }
+
+    /** Each machine by itself: its own work is not done, no other's. */
+    private static void failedOfThree() {
+        DUE.part("failed of three");
+        for (int hot = 0; hot < 3; hot++) {
+            HotHall x = Halls.still();
+            for (int m = 0; m < 3; m++) {
+                x.machine(m, 0, 0, 5000, 3 - m);
+            }
+            x.steady(0, 9, 9, 1, -1);
+            for (int w = 0; w < 3; w++) {
+                x.batch(0, 99, 99, 2 - w);
+            }
+            x.heat(hot, 100000);
+            x.odds(0, 1, 77);
+            x.minutes(1);
+            for (int m = 0; m < 3; m++) {
+                is("failed", x.of(m, 3), m == hot ? 1 : 0);
+                works(x, 3 - m, OPEN, m == hot ? 0 : 3, m == hot ? BY_FAILING : 0);
+            }
         }
     }
 

@@ -85,6 +85,8 @@ public final class RoomEdgesTest {
         for (int c = 0; c < 12; c++) {
             is("cell " + c, x.cell(c, 0), 0);
             is("what it was", x.heat(c, 1), 0);
+            is("what it was", x.heat(c, 100000), 1);
+            is("what it was", x.heat(c, 0), 100000);
         }
     }
 
@@ -424,6 +426,14 @@ public final class RoomEdgesTest {
             x.minutes(1);
             is("of " + row[0], x.now(2), row[1]);
         }
+        HotHall x = hall(0, 0, 0);
+        x.machine(0, 0, 500, 5000, 0);
+        x.batch(0, 9, 9, 0);
+        x.store(100000, 10000, 1000);
+        x.net(11499);
+        x.minutes(1);
+        is("1500 are drawn, 9999 are left", x.now(2), 9999);
+        is("coin", x.now(7), 114990);
     }
 
     /** "at the PRICE of the minute (.. by minute left over by 24; 10 at first)": coin and p wrap as a day is over. */
