@@ -8,8 +8,9 @@ import java.util.Random;
 
 /** Random runs of calls on a HotHall and on a Model: each answer must be the same. */
 public final class ModelTest {
-    private static final int RUNS = 400;
-    private static final int CALLS = 500;
+    private static final int RUNS = 500;
+    /** With the digests between them no more than the 512 that an object is used for. */
+    private static final int CALLS = 440;
     private static final String SIGNS = "gpswmf0123456789|&<>=+-*/!() ";
     private static final String[] TEXTS = {"3-(g>100)*3", "3-g/150", "w&2|p<20", "(s>10)+(p<11)+1", "m/3-m/6*2",
         "3-f", "!(g>300)*3", "- -2", "((((((((3))))))))", "(((((((((3)))))))))", "1<2<3", "1234567", "3 -( w > 2 )",

@@ -401,34 +401,43 @@ public final class RefusalsTest {
     private static void askingChangesNothing() {
         DUE.part("asking");
         for (int hall = 0; hall < HALLS; hall++) {
-            HotHall asked = make(hall);
-            for (int w = -1; w < 16; w++) {
-                asked.placing(w);
-            }
-            for (int n = 1; n <= 30; n += 29) {
-                asked.without(n);
-                for (int what = 0; what <= 5; what++) {
-                    asked.other(what, 5, n, 0);
-                    asked.other(what, -5, n, 1);
-                }
-            }
-            asked.worst(0);
-            asked.worst(1);
-            asked.fitted();
-            asked.check();
-            asked.fault();
-            for (int i = 0; i < 12; i++) {
-                asked.cell(i, 1);
-                asked.of(i, 2);
-                asked.work(i, 1);
-                asked.now(i);
-                asked.bill(i);
-                asked.record(i);
-                asked.count(i);
-            }
-            asked.digest();
-            long[] got = Probe.answers(asked);
-            DUE.holds("in " + NAMES[hall], Arrays.equals(got, UNTOUCHED[hall]));
+            HotHall foretold = make(hall);
+            askForetold(foretold);
+            DUE.holds("what is foretold, in " + NAMES[hall], Arrays.equals(Probe.answers(foretold), UNTOUCHED[hall]));
+            HotHall told = make(hall);
+            askTold(told);
+            DUE.holds("what is told, in " + NAMES[hall], Arrays.equals(Probe.answers(told), UNTOUCHED[hall]));
         }
+    }
+
+    private static void askForetold(HotHall x) {
+        for (int w = -1; w < 16; w++) {
+            x.placing(w);
+        }
+        for (int n = 1; n <= 30; n += 29) {
+            x.without(n);
+            for (int what = 0; what <= 5; what++) {
+                x.other(what, 5, n, 0);
+                x.other(what, -5, n, 1);
+            }
+        }
+        x.worst(0);
+        x.worst(1);
+        x.fitted();
+        x.check();
+    }
+
+    private static void askTold(HotHall x) {
+        for (int i = 0; i < 12; i++) {
+            x.cell(i, 1);
+            x.of(i, 2);
+            x.work(i, 1);
+            x.now(i);
+            x.bill(i);
+            x.record(i);
+            x.count(i);
+        }
+        x.fault();
+        x.digest();
     }
 }
