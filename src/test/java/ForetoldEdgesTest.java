@@ -1,3 +1,5 @@
+import java.math.BigInteger;
+
 /** The document's Terms, part 4, and promises 23 to 29: each sentence that names an edge. Quotations are the document's. */
 public final class ForetoldEdgesTest {
     private static final Due DUE = new Due();
@@ -37,6 +39,7 @@ public final class ForetoldEdgesTest {
         fittedHundreds();
         fittedEnds();
         fittedLikest();
+        fittedByProducts();
         drillsTold();
         worstMinutes();
         worstAsTheyAreNow();
@@ -766,23 +769,7 @@ public final class ForetoldEdgesTest {
         x.minutes(1);
         is("0 failed", x.of(0, 3), 1);
         // told at 9 (more as 9): A + 9 B is 100 or 101 at most; 19 and 9 times 9 is 100
-        is("0 was the 60th", x.fitted(), best(9, 59));
-    }
-
-    /** The likeliest if one failed at k and so many stood at 0, as the document tells it, by logarithms. */
-    private static int best(int k, int stood) {
-        int best = 0;
-        double most = Double.NEGATIVE_INFINITY;
-        for (int a = 1; a <= 20; a++) {
-            for (int b = 0; b <= 9; b++) {
-                double odds = Math.log(a + b * k) + stood * Math.log(1000 - a);
-                if (odds > most + 1e-9) {
-                    most = odds;
-                    best = 100 * a + b;
-                }
-            }
-        }
-        return best;
+        is("0 was the 60th", x.fitted(), likeliest(59, 0, 1, 9));
     }
 
     /** "told by its CELL's HEAT by 100 at (g), cut (0 .. 9; less as 0, more as 9)": one failed at it, 59 stood at 0. */
@@ -798,7 +785,7 @@ public final class ForetoldEdgesTest {
             x.odds(100, 0, Halls.lotFor(0));
             x.minutes(1);
             is("failed", x.of(0, 3), 1);
-            is("9 stood at 0, one failed at " + row[0], x.fitted(), best(row[1], 9));
+            is("9 stood at 0, one failed at " + row[0], x.fitted(), likeliest(9, 0, 1, row[1]));
         }
         HotHall x = new HotHall();
         x.room(0, 500, 200);
@@ -847,6 +834,57 @@ public final class ForetoldEdgesTest {
         is("34 rather than 35", fittedOneOf(28, 2), 1609);
         // 63 937^15 is a little above 62 938^15: A + 5 B is 63
         is("63 rather than 62", fittedOneOf(15, 5), 1809);
+    }
+
+    /** "the greatest product": of many that stood at one heat and many that failed at another, by whole numbers. */
+    private static void fittedByProducts() {
+        DUE.part("greatest product");
+        int[] heats = {0, 1, 2, 3, 5, 9};
+        for (int stoodAt : heats) {
+            for (int failedAt : heats) {
+                for (int failed = 0; failed <= 9; failed++) {
+                    for (int stood = failed == 0 ? 1 : 0; stood <= 51; stood += stood < 6 ? 1 : 5) {
+                        HotHall x = told(stood, stoodAt, failed, failedAt);
+                        is("how many are told", x.count(6), stood + failed);
+                        is(stood + " stood at " + stoodAt + ", " + failed + " failed at " + failedAt, x.fitted(),
+                            likeliest(stood, stoodAt, failed, failedAt));
+                    }
+                }
+            }
+        }
+    }
+
+    /** Machine 0 stands as long as its work takes; then each of the others fails in its first minute. */
+    private static HotHall told(int stood, int stoodAt, int failed, int failedAt) {
+        HotHall x = Halls.row(10);
+        x.heat(0, 100 * stoodAt);
+        if (stood > 0) {
+            x.batch(0, 3 * stood, 9999, 0);
+            x.minutes(stood);
+        }
+        for (int m = 1; m <= failed; m++) {
+            x.heat(m, 100 * failedAt + 99);
+            x.batch(0, 1, 9999, m);
+            x.odds(1, 0, Halls.lotFor(0));
+            x.minutes(1);
+        }
+        return x;
+    }
+
+    private static int likeliest(int stood, int stoodAt, int failed, int failedAt) {
+        BigInteger most = BigInteger.ZERO;
+        int likeliest = 0;
+        for (int a = 1; a <= 20; a++) {
+            for (int b = 0; b <= 9; b++) {
+                BigInteger product = BigInteger.valueOf(a + b * failedAt).pow(failed)
+                    .multiply(BigInteger.valueOf(1000 - a - b * stoodAt).pow(stood));
+                if (product.compareTo(most) > 0) {
+                    most = product;
+                    likeliest = 100 * a + b;
+                }
+            }
+        }
+        return likeliest;
     }
 
     /** So many stood and then one failed at k. */
